@@ -1,0 +1,96 @@
+/** Counts the answers that are as due, and tells each one that is not; feeds texts to a prover. */
+final class Due {
+    private final String test;
+    private int right;
+    private int wrong;
+
+    Due(String test) {
+        this.test = test;
+    }
+
+    void is(String call, long got, long want) {
+        if (got == want) {
+            right++;
+            return;
+        }
+        wrong++;
+        if (wrong <= 50) {
+            System.out.println(test + ": " + call + " answered " + got + ", due is " + want);
+        }
+    }
+
+    void isText(String call, String got, String want) {
+        if (got.equals(want)) {
+            right++;
+            return;
+        }
+        wrong++;
+        System.out.println(test + ": " + call + " told \"" + got + "\", due is \"" + want + "\"");
+    }
+
+    boolean isBad() {
+        return wrong > 0;
+    }
+
+    void end() {
+        System.out.println(test + ": " + right + " answers as due, " + wrong + " not");
+        if (wrong > 0 || right == 0) {
+            System.exit(1);
+        }
+    }
+
+    static void feed(KinProver x, String text) {
+        for (int i = 0; i < text.length(); i++) {
+            x.feed(text.charAt(i));
+        }
+    }
+
+    static int person(KinProver x, String name, int sex) {
+        feed(x, name);
+        return x.person(sex);
+    }
+
+    /** So many PERSONS without a told SEX, all of the NAME p. */
+    static KinProver people(int count) {
+        KinProver x = new KinProver();
+        for (int i = 0; i < count; i++) {
+            person(x, "p", 0);
+        }
+        return x;
+    }
+
+    static int state(KinProver x, String text) {
+        feed(x, text);
+        return x.state(1);
+    }
+
+    static KinProver told(int persons, String... texts) {
+        KinProver x = people(persons);
+        for (String text : texts) {
+            if (state(x, text) < 0) {
+                throw new IllegalStateException("no statement: " + text);
+            }
+        }
+        return x;
+    }
+
+    static String paper(KinProver x) {
+        StringBuilder text = new StringBuilder();
+        for (int i = 0; x.paper(i) != KinProver.NONE; i++) {
+            text.append((char) x.paper(i));
+        }
+        return text.toString();
+    }
+
+    static String title(KinProver x, int a, int b) {
+        int length = x.title(a, b);
+        String text = paper(x);
+        return length == text.length() ? text : text + " (" + length + ")";
+    }
+
+    static String proved(KinProver x, int person, int what, int side) {
+        int length = x.prove(person, what, side);
+        String text = paper(x);
+        return length == text.length() ? text : text + " (" + length + ")";
+    }
+}
