@@ -232,6 +232,9 @@ public final class RangesTest {
         Due.state(x, "s 0 1");
         due.is("sort, two that are one", x.clash(0), 0);
         due.is("rounds then", x.rounds() > 0 ? 1 : 0, 1);
+        KinProver y = Due.told(5, "m 0 1", "m 1 0", "m 4 2", "m 4 3");
+        due.is("sort, ahead of SELF", y.clash(0), 2);
+        due.is("PEOPLE, ahead of SELF", y.clash(1), 4);
     }
 
     private static void clashOfSelf() {
