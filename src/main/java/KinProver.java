@@ -1075,29 +1075,28 @@ public final class KinProver {
         }
 
         int children(int number) {
-            int set = 0;
+            return holders(parents, number);
+        }
+
+        int below(int number) {
+            return holders(above, number);
+        }
+
+        /** All those in whose set one is. */
+        private static int holders(int[] sets, int number) {
+            int holding = 0;
             for (int p = 0; p < PERSONS; p++) {
-                if (has(parents[p], number)) {
-                    set |= 1 << p;
+                if (has(sets[p], number)) {
+                    holding |= 1 << p;
                 }
             }
-            return set;
+            return holding;
         }
 
         int siblings(int number) {
             int set = 0;
             for (int p = 0; p < PERSONS; p++) {
                 if (p != number && (parents[p] & parents[number]) != 0) {
-                    set |= 1 << p;
-                }
-            }
-            return set;
-        }
-
-        int below(int number) {
-            int set = 0;
-            for (int p = 0; p < PERSONS; p++) {
-                if (has(above[p], number)) {
                     set |= 1 << p;
                 }
             }
