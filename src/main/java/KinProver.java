@@ -64,7 +64,7 @@ public final class KinProver {
     }
 
     public int paper(int i) {
-        return i >= 0 && i < paper.length ? paper.at(i) : NONE;
+        return paper.at(i);
     }
 
     public int person(int sex) {
@@ -166,7 +166,7 @@ public final class KinProver {
     }
 
     public int find(int i) {
-        int found = tape.nameFault() < 0 ? book.findNamed(tape, i) : NOT_TOLD;
+        int found = book.findNamed(tape, i);
         tape.wipe();
         return found;
     }
@@ -240,7 +240,7 @@ public final class KinProver {
             return NONE;
         }
         settle();
-        if (now.clash != EMPTY_CLASH || now.ranges.empty < 0) {
+        if (now.ranges.empty < 0) {
             return STATE;
         }
         return now.ranges.tellRest(2 * now.ranges.empty + side, link, part);
@@ -630,9 +630,9 @@ public final class KinProver {
             put('0' + number % 10);
         }
 
-        /** The byte at a place, -1 beyond them. */
+        /** The byte at a place, NONE beyond them. */
         int at(int i) {
-            return i >= 0 && i < length ? bytes[i] : -1;
+            return i >= 0 && i < length ? bytes[i] : NONE;
         }
 
         boolean isFigure(int i) {
@@ -823,6 +823,7 @@ public final class KinProver {
             }
         }
 
+        /** The i-th whose NAME these bytes are; bytes that are no NAME are nobody's. */
         int findNamed(Text name, int i) {
             int seen = 0;
             for (int person = 0; person < persons; person++) {

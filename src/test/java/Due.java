@@ -3,6 +3,7 @@ final class Due {
     private final String test;
     private int right;
     private int wrong;
+    private String under = "";
 
     Due(String test) {
         this.test = test;
@@ -15,7 +16,7 @@ final class Due {
         }
         wrong++;
         if (wrong <= 50) {
-            System.out.println(test + ": " + call + " answered " + got + ", due is " + want);
+            System.out.println(test + ": " + under + call + " answered " + got + ", due is " + want);
         }
     }
 
@@ -25,7 +26,16 @@ final class Due {
             return;
         }
         wrong++;
-        System.out.println(test + ": " + call + " told \"" + got + "\", due is \"" + want + "\"");
+        System.out.println(test + ": " + under + call + " told \"" + got + "\", due is \"" + want + "\"");
+    }
+
+    /** The words that the next answers are held to. */
+    void under(String words) {
+        under = words.isEmpty() ? "" : "\"" + words + "\": ";
+    }
+
+    int answers() {
+        return right + wrong;
     }
 
     boolean isBad() {
@@ -76,8 +86,10 @@ final class Due {
 
     static String paper(KinProver x) {
         StringBuilder text = new StringBuilder();
-        for (int i = 0; x.paper(i) != KinProver.NONE; i++) {
-            text.append((char) x.paper(i));
+        int letter = x.paper(0);
+        for (int i = 1; letter != KinProver.NONE; i++) {
+            text.append((char) letter);
+            letter = x.paper(i);
         }
         return text.toString();
     }
@@ -92,5 +104,35 @@ final class Due {
         int length = x.prove(person, what, side);
         String text = paper(x);
         return length == text.length() ? text : text + " (" + length + ")";
+    }
+
+    /** All that stands in one but THE PAPER: PERSONS, STATEMENTS, THE TAPE's length, the first places of LISTS. */
+    static String stands(KinProver x) {
+        StringBuilder all = new StringBuilder();
+        for (int what = 0; what <= 4; what++) {
+            all.append(x.told(what)).append(what < 4 ? '/' : '\n');
+        }
+        for (int p = 0; p < x.told(0); p++) {
+            for (int i = 0; i < x.name(p, -1); i++) {
+                all.append((char) x.name(p, i));
+            }
+            for (int what = 0; what <= 7; what++) {
+                all.append(' ').append(x.people(p, what));
+            }
+            for (int end = 0; end < 4; end++) {
+                all.append(' ').append(x.end(p, end / 2, end % 2));
+            }
+            all.append('\n');
+        }
+        for (int s = 0; s < x.told(2); s++) {
+            for (int what = 0; what <= 5; what++) {
+                all.append(x.of(s, what)).append(what < 5 ? ' ' : '\n');
+            }
+        }
+        for (int place = 0; place < 20; place++) {
+            long value = x.get(place / 5, place % 5);
+            all.append(value == KinProver.NO ? "NO" : "" + value).append(' ');
+        }
+        return all.toString();
     }
 }
