@@ -283,7 +283,9 @@ public final class KinTermsTest {
         isOrder(x, 3, 1, 0, 2);
         Due.state(x, "s 3 2");
         isOrder(x, 1, 0, 2);
+        isOrder(Due.told(4, "b 1 1900 1910", "b 2 1901 1950", "b 3 1899 1950"), 0, 3, 1, 2);
         words.say("of one by the upper one,");
+        isOrder(Due.told(4, "b 1 1900 1910", "b 2 1900 1905", "b 3 1900 1907"), 0, 2, 3, 1);
         isOrder(Due.told(3, "b 0 1900 1910", "b 1 1900 1909", "b 2 1900 1911"), 1, 0, 2);
         words.say("then by numbers.");
         isOrder(Due.told(4, "b 3 5 6", "b 2 5 6", "b 1 5 6"), 0, 1, 2, 3);
@@ -307,6 +309,16 @@ public final class KinTermsTest {
         KinProver z = Due.told(4, "m 1 0", "f 2 1", "m 3 2", "f 3 0");
         isGenerations(z, 0, 1, 2, 3);
         isGenerations(Due.told(4, "m 0 1", "m 1 2", "m 2 3"), 3, 2, 1, 0);
+        KinProver y = Due.people(30);
+        for (int p = 0; p < 29; p++) {
+            Due.state(y, "m " + p + " " + (p + 1));
+        }
+        for (int p = 0; p < 30; p++) {
+            is("people(" + p + ", 7)", y.people(p, 7), 29 - p);
+        }
+        is("told(7)", y.told(7), 29);
+        isKin(y, 0, 29, 2900, 29);
+        is("ancestors(0)", y.ancestors(0), (1L << 30) - 2);
         words.say("(none, if any of PEOPLE is its own ANCESTOR, whatever the CLASH).");
         Due.state(x, "m 3 4");
         isGenerations(x, -5, -5, -5, -5, -5, -5);
@@ -314,14 +326,14 @@ public final class KinTermsTest {
         Due.state(x, "m 5 3");
         isGenerations(x, -5, -5, -5, -5, -5, -5);
         is("the CLASH, SEX", x.clash(0), 1);
-        KinProver y = Due.told(4, "m 0 1", "m 0 2", "m 2 0");
-        is("the CLASH, PARENTS", y.clash(0), 2);
-        isGenerations(y, -5, -5, -5, -5);
-        y.live(0, 0);
-        is("the CLASH, SELF", y.clash(0), 3);
-        isGenerations(y, -5, -5, -5, -5);
-        y.live(2, 0);
-        isGenerations(y, 1, 0, 0, 0);
+        KinProver w = Due.told(4, "m 0 1", "m 0 2", "m 2 0");
+        is("the CLASH, PARENTS", w.clash(0), 2);
+        isGenerations(w, -5, -5, -5, -5);
+        w.live(0, 0);
+        is("the CLASH, SELF", w.clash(0), 3);
+        isGenerations(w, -5, -5, -5, -5);
+        w.live(2, 0);
+        isGenerations(w, 1, 0, 0, 0);
         isGenerations(Due.told(2, "m 0 1", "b 0 5 5", "b 0 6 6"), 1, 0);
     }
 

@@ -323,6 +323,14 @@ public final class KinTest {
         due.is("siblings of 4", x.relatives(4, 1), 0);
         due.is("siblings of its own mother", y.relatives(0, 1), 0);
         due.is("siblings of an only one", y.relatives(3, 1), 0);
+        KinProver z = Due.people(30);
+        Due.state(z, "m 0 28");
+        Due.state(z, "m 29 28");
+        due.is("siblings of the last", z.relatives(29, 1), bits(0));
+        due.is("siblings of the first", z.relatives(0, 1), bits(29));
+        due.is("children of 28", z.relatives(28, 0), bits(0, 29));
+        due.is("descendants of 28", z.descendants(28), bits(0, 29));
+        due.is("how many", z.people(28, 5), 2);
         Due.state(x, "f 9 0");
         due.is("by a mother who is a father", x.relatives(2, 1), bits(3, 6, 9));
         due.is("by a father who is a mother", x.relatives(9, 1), bits(2, 3, 6));

@@ -29,6 +29,7 @@ public final class ListsTest {
             x.set(0, i, 7 + i);
         }
         due.is("list(0, 2)", x.list(0, 2), 1);
+        due.is("get(0, 0) anew", x.get(0, 0), 0);
         due.is("get(0, 1) anew", x.get(0, 1), 0);
         due.is("get(0, 2)", x.get(0, 2), KinProver.NO);
         due.is("list(0, 40) again", x.list(0, 40), 1);

@@ -290,6 +290,17 @@ public final class RangesTest {
         isProof(y, new int[] {0, 0, 0}, 99, -3, -3, -3);
         isProof(y, new int[] {0, 1, 0}, 1, 0, -5, -5);
         isProof(y, new int[] {0, 1, 0}, 2, -3, -3, -3);
+        isProof(y, new int[] {1, 0, 0}, 1, -3, -3, -3);
+        isProof(y, new int[] {1, 1, 1}, 2, -3, -3, -3);
+        isProof(y, new int[] {1, 1, 0}, 99, -3, -3, -3);
+        KinProver w = Due.told(2, "w 0 1 0 3000", "d 0 5 2000");
+        isProof(w, new int[] {0, 0, 1}, 0, 0, 200, 1);
+        isProof(w, new int[] {0, 0, 1}, 1, 0, 1, 1);
+        isProof(w, new int[] {0, 0, 1}, 2, 1, -5, -5);
+        w.live(1, 0);
+        isProof(w, new int[] {0, 0, 1}, 0, 0, 200, 1);
+        isProof(w, new int[] {0, 0, 1}, 1, -3, -3, -3);
+        isProof(w, new int[] {0, 0, 1}, 2, -3, -3, -3);
         KinProver z = Due.told(2, "o 0 1 5");
         isProof(z, new int[] {1, 0, 0}, 0, 0, 0, 0);
         isProof(z, new int[] {1, 0, 0}, 1, -3, -3, -3);
@@ -479,6 +490,7 @@ public final class RangesTest {
         KinProver y = Due.told(3, "b 0 5 5", "b 1 9 9", "s 0 2", "s 2 1");
         is("by SAME", y.culprit(-1), 4);
         is("in a ring of OLDER", ring().culprit(-1), 2);
+        is("beside a ring of OLDER", Due.told(3, "b 2 5 5", "b 2 6 6", "o 0 1 1", "o 1 0 1").culprit(-1), 0);
         KinProver x = Due.told(3, "b 0 1900 1910", "d 0 1800 1890");
         x.live(0, 0);
         Due.state(x, "m 2 0");
@@ -510,6 +522,9 @@ public final class RangesTest {
         Due.state(y, "b 5 3000 3000");
         is("with a CLASH now", y.same(2, 1), 4);
         is("who are one", Due.told(2, "s 0 1").same(1, 0), 0);
+        is("to be older than itself", Due.told(2, "o 0 1 1").same(0, 1), 4);
+        is("to be a ring of OLDER", Due.told(3, "o 0 1 1", "o 1 2 1").same(2, 0), 4);
+        is("to be no ring of OLDER", Due.told(3, "o 0 1 1", "o 0 2 1").same(2, 1), 0);
         words.say("in thought, with 60 there, too);");
         is("nothing has changed", x.told(2), 3);
         is("nothing has changed, PEOPLE", x.told(1), 4);
@@ -523,6 +538,17 @@ public final class RangesTest {
         is("of(60, 0)", x.of(60, 0), -1);
         Due.person(x, "q", 2);
         is("same(4, 2)", x.same(4, 2), 1);
+        KinProver z = Due.people(3);
+        z.sex(0, 1);
+        for (int i = 0; i < 60; i++) {
+            Due.state(z, "s 0 1");
+        }
+        is("LIVE ones", z.told(3), 60);
+        is("same(0, 2) with 60 LIVE", z.same(0, 2), 0);
+        z.sex(2, 2);
+        is("same(2, 1) with 60 LIVE", z.same(2, 1), 1);
+        is("LIVE ones then", z.told(3), 60);
+        is("PEOPLE then", z.told(1), 2);
         words.say("0: none.");
         is("same(0, 2)", Due.told(4, "b 0 1900 1900", "m 3 2").same(0, 2), 0);
         is("same(0, 1)", Due.people(2).same(0, 1), 0);
@@ -563,6 +589,7 @@ public final class RangesTest {
         is("nothing has changed, PEOPLE", x.told(1), 3);
         words.say("-1000 less the sort of the CLASH that there would be;");
         is("of EMPTY", narrowing(x, "d 0 0 1000", 1, 0), -1004);
+        is("of EMPTY by a ring", narrowing(Due.told(2, "o 0 1 1"), "o 1 0 1", 1, 0), -1004);
         Due.state(x, "m 1 2");
         is("of SEX", narrowing(x, "f 0 2", 1, 0), -1001);
         is("of PARENTS", narrowing(x, "m 1 0", 1, 0), -1002);
