@@ -73,6 +73,9 @@ public final class KinTermsTest {
         KinProver x = Due.told(8, "m 0 5", "f 0 4", "m 4 1", "m 2 3", "m 3 5", "f 2 6", "m 6 1");
         isKin(x, 0, 2, 102, 5);
         isKin(x, 2, 0, 201, 5);
+        KinProver u = Due.told(8, "m 0 3", "m 3 2", "m 1 2", "f 0 7", "f 1 5", "f 5 6", "f 6 7");
+        isKin(u, 0, 1, 201, 2);
+        isKin(u, 1, 0, 102, 2);
         words.say("of several that with the fewest from a,");
         KinProver y = Due.told(6, "m 0 5", "m 1 4", "m 4 5", "f 0 3", "f 3 2", "f 1 2");
         isKin(y, 0, 1, 102, 5);
@@ -139,6 +142,8 @@ public final class KinTermsTest {
         isHalf(0, Due.told(10, "m 7 0", "f 7 1", "m 8 0", "m 6 0", "f 6 1", "m 2 8", "m 3 7", "m 9 2", "f 9 3"), 9, 6);
         isHalf(1, Due.told(10, "m 7 0", "f 8 1", "m 8 0", "m 6 0", "f 6 1", "m 2 8", "m 3 7", "m 9 2", "f 9 3"), 9, 6);
         isHalf(1, Due.told(8, "m 4 0", "f 4 1", "m 5 0", "m 6 0", "f 6 1", "m 7 5", "m 3 7", "f 3 5"), 3, 6);
+        isHalf(0, Due.told(10, "m 0 5", "m 5 9", "f 5 7", "f 0 4", "m 4 1", "m 1 9", "m 8 9", "f 8 7"), 0, 8);
+        isHalf(1, Due.told(10, "m 0 5", "m 5 9", "f 1 7", "f 0 4", "m 4 1", "m 1 9", "m 8 9", "f 8 7"), 0, 8);
     }
 
     private static KinProver sexes(KinProver x, int... sexes) {

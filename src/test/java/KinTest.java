@@ -295,6 +295,9 @@ public final class KinTest {
         isPath(x, 0, 9, 0, 6, 7, 9);
         isPath(x, 9, 0, 9, 7, 6, 0);
         KinProver y = Due.told(8, "m 0 6", "f 0 5", "m 6 7", "m 5 7", "m 1 3", "f 1 4", "m 3 7", "m 4 7");
+        KinProver z = Due.told(10, "m 0 5", "m 5 9", "f 0 4", "m 4 1", "m 1 9");
+        isPath(z, 0, 9, 0, 5, 9);
+        isPath(z, 9, 0, 9, 5, 0);
         isPath(y, 0, 1, 0, 5, 7, 3, 1);
         isPath(y, 1, 0, 1, 3, 7, 5, 0);
     }
