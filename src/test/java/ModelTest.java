@@ -6,16 +6,19 @@ public final class ModelTest {
     private static KinModel y;
     private static int persons;
     private static int statements;
-    /** 0 anything; 1, 2 families, whose even PERSONS are mothers, odd ones fathers; 3 rings of OLDER. */
+    /**
+     * 0 anything; 1, 2 families, whose even PERSONS are mothers, odd ones fathers; 3 rings of OLDER; 4 couples' children,
+     * so that there are whole kin; 5 anybody's children, so that ANCESTORS go in rings and some have several mothers.
+     */
     private static int sort;
 
     public static void main(String[] args) {
-        for (int run = 0; run < 800 && !due.isBad(); run++) {
+        for (int run = 0; run < 720 && !due.isBad(); run++) {
             x = new KinProver();
             y = new KinModel();
             persons = 0;
             statements = 0;
-            sort = run % 4;
+            sort = run % 6;
             try {
                 oneRun(run);
             } catch (RuntimeException e) {
@@ -35,9 +38,10 @@ public final class ModelTest {
     }
 
     private static void oneRun(int run) {
-        int crowd = oneIn(12) ? 31 : 2 + below(oneIn(3) || sort == 2 ? 20 : 8);
+        int crowd = oneIn(12) ? 31 : sort == 4 ? 12 + below(15) : 2 + below(oneIn(3) || sort == 2 ? 20 : 8);
         int eras = oneIn(3) ? 3000 : 150;
-        int mostStatements = oneIn(8) && sort != 3 ? 62 : 4 + below(sort == 2 ? 50 : sort == 1 ? 30 : 12);
+        int mostStatements = oneIn(8) && sort != 3 ? 62 : sort == 4 ? 3 * crowd / 2
+            : 4 + below(sort == 2 || sort == 5 ? 50 : sort == 1 ? 30 : 12);
         for (int i = 0; i < crowd; i++) {
             newPerson();
         }
@@ -100,6 +104,8 @@ public final class ModelTest {
         return switch (sort) {
             case 0 -> anyText(eras, who(), who());
             case 3 -> ringText();
+            case 4 -> coupleText();
+            case 5 -> anybodyText();
             default -> familyText(who());
         };
     }
@@ -158,6 +164,27 @@ public final class ModelTest {
         };
     }
 
+    /** Six PERSONS after six are children of three couples among the six ahead, two of each; a few of another one's. */
+    private static String coupleText() {
+        if (oneIn(8)) {
+            return familyText(who());
+        }
+        int a = 6 + statements / 2 % Math.max(1, persons - 6);
+        int over = a / 6 * 6 - 6;
+        int couple = oneIn(15) ? below(3) : a % 6 / 2;
+        return statements % 2 == 0 ? "m " + a + " " + (over + 2 * couple) : "f " + a + " " + (over + (2 * couple + 3) % 6);
+    }
+
+    /** One PERSON after the other is told a mother and a father, whoever these are. */
+    private static String anybodyText() {
+        if (oneIn(8)) {
+            return familyText(who());
+        }
+        int a = statements / 2 % Math.max(1, persons);
+        int couple = 2 * below(Math.max(1, persons / 2));
+        return statements % 2 == 0 ? "m " + a + " " + couple : "f " + a + " " + (couple + 1);
+    }
+
     private static String maybeBroken(String text) {
         if (!oneIn(12) || text.isEmpty()) {
             return text;
@@ -181,7 +208,7 @@ public final class ModelTest {
         if (oneIn(3)) {
             due.is("clear", x.clear(), y.clear());
         }
-        if (x.clash(0) != 0 && !oneIn(3)) {
+        if (x.clash(0) != 0 && sort != 5 && !oneIn(3)) {
             int last = statements - 1;
             due.is("live(" + last + ", 0)", x.live(last, 0), y.live(last, 0));
         }
